@@ -294,11 +294,15 @@ public final class SideBySide {
         if (n < 0 || n > MOST_ROUNDS) {
             return OUTSIDE;
         }
-        int done = 0;
-        for (int r = 0; r < n; r++) {
-            done += playRound();
+        layAnew();
+        if (!ways.found) {
+            return 0;
         }
-        return done;
+        for (int r = 0; r < n; r++) {
+            layAnew();
+            playRound();
+        }
+        return n;
     }
 
     public int share(int a, int b) {
@@ -538,19 +542,14 @@ public final class SideBySide {
         }
     }
 
-    /** Answers how many rounds were done, 1 or 0. */
-    private int playRound() {
-        layAnew();
-        if (!ways.found) {
-            return 0;
-        }
+    /** The caller has laid anew; whether there is a way does not hang on shares. */
+    private void playRound() {
         shares.startDealing();
         for (int k = 0; k < ways.joints; k++) {
             dealJoint(k);
         }
         shares.settle();
         stale = true;
-        return 1;
     }
 
     private void dealJoint(int k) {
@@ -997,7 +996,7 @@ public final class SideBySide {
         }
 
         private static int costIndex(int kind, int i, int j) {
-            return kind * PLACES + placeOf(i, j);
+            return kind * PLACES + i * SIDE + j;
         }
 
         void fillCosts() {

@@ -69,6 +69,14 @@ public final class BooksTest {
         x.take(0);
         Checks.dueText("cut: first bytes stay", Checks.shown(x, 0), "ab c");
         Checks.due("cut: tape was taken", x.cut(1), Checks.OUTSIDE);
+        Checks.type(x, "a 1.5");
+        x.cut(4);
+        x.take(0);
+        Checks.dueText("cut: what went does not count", Checks.shown(x, 0), "a 1");
+        Checks.type(x, "b cd");
+        x.cut(3);
+        x.take(0);
+        Checks.dueText("cut: what went is no part of a word", Checks.shown(x, 0), "b c");
     }
 
     private static void abbreviate() {

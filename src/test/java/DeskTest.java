@@ -31,6 +31,10 @@ public final class DeskTest {
             Checks.due("putSentence(0, " + n + ", 0)", x.putSentence(0, n, 0), Checks.UNKNOWN);
             Checks.due("putSentence(0, 0, " + n + ")", x.putSentence(0, 0, n), Checks.UNKNOWN);
         }
+        x.putRow(1, 2);
+        Checks.due("spell of the right book", x.spell(7, 1, 0), 2);
+        Checks.due("right kind 1", x.read(1, 0), 1);
+        Checks.due("right kind 2", x.read(1, 1), 2);
         x.change(0, 0, 0, 2);
         Checks.book(x, 0, "");
         x.putRow(1, 3);

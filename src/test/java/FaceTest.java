@@ -79,6 +79,8 @@ public final class FaceTest {
             Checks.due("at most twenty fields: " + c.getName(), own <= 20 ? 1 : 0, 1);
             for (Method m : c.getDeclaredMethods()) {
                 Checks.due("at most seven parameters: " + m.getName(), m.getParameterCount() <= 7 ? 1 : 0, 1);
+                boolean alike = Arrays.stream(FACE).anyMatch(call -> call.startsWith(m.getName() + " "));
+                Checks.due("bears the name of a public method: " + m.getName(), alike ? 1 : 0, 0);
             }
             for (Field f : c.getDeclaredFields()) {
                 int how = f.getModifiers();

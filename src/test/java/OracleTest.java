@@ -213,8 +213,8 @@ public final class OracleTest {
     }
 
     private void playDesk(int which, int lefts, int rights) {
-        int s = arg(0, 7);
-        int r = arg(0, 7);
+        int s = draw(3) == 0 ? arg(0, 7) : arg(0, 1);
+        int r = draw(3) == 0 ? arg(0, 7) : arg(0, 1);
         int b = arg(0, 1);
         int i = arg(0, b == 0 ? lefts - 1 : rights - 1);
         int n = draw(4) == 0 ? arg(-2, 31) : arg(0, 6);

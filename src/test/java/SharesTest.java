@@ -6,6 +6,7 @@ public final class SharesTest {
         secondRoundByHand();
         roundLooksAtPricesAhead();
         oneSidedJointsDealNothing();
+        fortyKinds();
         rounds();
         share();
         partner();
@@ -81,6 +82,23 @@ public final class SharesTest {
         SideBySide y = Checks.books("a. b", "");
         Checks.due("rounds without joints of both sides", y.rounds(10), 10);
         Checks.due("shares stay", y.share(0, -1), Checks.UNIT);
+    }
+
+    private static void fortyKinds() {
+        StringBuilder right = new StringBuilder();
+        for (int k = 10; k < 50; k++) {
+            right.append(k).append(k % 10 == 9 ? "." : " ");
+        }
+        SideBySide x = Checks.books("a", right.toString().replace('.', '!'));
+        Checks.due("forty kinds", x.count(1, 2), 40);
+        Checks.due("forty kinds: even", x.share(0, 39), Checks.UNIT / 41);
+        Checks.due("forty kinds: loss", x.partner(0, 1), 1);
+        Checks.dueText("forty kinds: the last two sentences with a", Checks.kinds(x), "224");
+        x.rounds(1);
+        Checks.due("of 21 parts: the last kind", x.share(0, 39), 49932);
+        Checks.due("of 21 parts: no word", x.share(0, -1), 49932);
+        Checks.due("of 21 parts: not the first kind", x.share(0, 0), 0);
+        Checks.due("of 21 parts: loss", x.partner(0, 1), 4);
     }
 
     private static void rounds() {
