@@ -360,14 +360,14 @@ public final class SideBySide {
         if (!ways.hasJoint(k)) {
             return UNKNOWN;
         }
-        links.gather(k);
-        // A way that there is not leaves open whose word x is: it is unknown only if it is on no side.
-        boolean known = way != 1 && links.hasLeft(x) || way != 0 && links.hasRight(x);
-        if (!known) {
-            return UNKNOWN;
-        }
+        // Only a way of the two says whose word x is: with another one no word is named, so none is missing.
         if (way != 0 && way != 1) {
             return OUTSIDE;
+        }
+        links.gather(k);
+        boolean known = way == 0 ? links.hasLeft(x) : links.hasRight(x);
+        if (!known) {
+            return UNKNOWN;
         }
         if (!isLinkable(k)) {
             return NOT;

@@ -57,8 +57,12 @@ public final class LinksTest {
         Checks.due("link(0, 1, 1)", x.link(0, 1, 1), Checks.UNKNOWN);
         Checks.due("link(0, 2, 0)", x.link(0, 2, 0), Checks.OUTSIDE);
         Checks.due("link(0, -1, 0)", x.link(0, -1, 0), Checks.OUTSIDE);
-        Checks.due("link(0, 2, -1)", x.link(0, 2, -1), Checks.UNKNOWN);
+        Checks.due("no such way names no word: link(0, 2, -1)", x.link(0, 2, -1), Checks.OUTSIDE);
+        Checks.due("no such way names no word: link(0, -1, 2)", x.link(0, -1, 2), Checks.OUTSIDE);
+        Checks.due("the joint goes ahead of the way: link(2, 2, 0)", x.link(2, 2, 0), Checks.UNKNOWN);
         for (int n : Checks.WILD) {
+            Checks.due("link(0, 2, " + n + ")", x.link(0, 2, n), Checks.OUTSIDE);
+            Checks.due("link(0, " + n + ", " + n + ")", x.link(0, n, n), Checks.OUTSIDE);
             Checks.due("link(" + n + ", 0, 0)", x.link(n, 0, 0), Checks.UNKNOWN);
             Checks.due("link(0, " + n + ", 0)", x.link(0, n, 0), Checks.OUTSIDE);
             Checks.due("link(0, 0, " + n + ")", x.link(0, 0, n), Checks.UNKNOWN);
@@ -69,6 +73,7 @@ public final class LinksTest {
         Checks.due("left alone: no word 2", y.link(0, 0, 2), Checks.UNKNOWN);
         Checks.due("left alone: no right word", y.link(0, 1, 0), Checks.UNKNOWN);
         Checks.due("left alone: OUTSIDE goes ahead of NOT", y.link(0, 2, 0), Checks.OUTSIDE);
+        Checks.due("left alone: no such way, no word 2", y.link(0, 2, 2), Checks.OUTSIDE);
         SideBySide z = Checks.books("", "u v");
         Checks.due("right alone", z.link(0, 1, 1), Checks.NOT);
         Checks.due("right alone: no left word", z.link(0, 0, 0), Checks.UNKNOWN);

@@ -591,14 +591,11 @@ final class Oracle {
             return UNKNOWN;
         }
         Joint t = joints.get(k);
-        int lefts = side(0, t).size();
-        int rights = side(1, t).size();
-        int bound = way == 0 ? lefts : way == 1 ? rights : Math.max(lefts, rights);
-        if (x < 0 || x >= bound) {
-            return UNKNOWN;
-        }
         if (way < 0 || way > 1) {
             return OUTSIDE;
+        }
+        if (x < 0 || x >= side(way, t).size()) {
+            return UNKNOWN;
         }
         if (!hasLinks(t)) {
             return NOT;
