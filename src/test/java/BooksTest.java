@@ -141,14 +141,6 @@ public final class BooksTest {
         return part.repeat(n);
     }
 
-    private static String numbered(int n, int aSentence) {
-        StringBuilder text = new StringBuilder();
-        for (int k = 0; k < n; k++) {
-            text.append('k').append(k).append(k % aSentence == aSentence - 1 ? "." : " ");
-        }
-        return text.toString();
-    }
-
     private static void takeFull() {
         SideBySide x = new SideBySide();
         Checks.due("take(-1)", x.take(-1), Checks.UNKNOWN);
@@ -172,11 +164,11 @@ public final class BooksTest {
         x.cut(0);
         Checks.due("11 words behind others", Checks.book(x, 1, "b. " + repeated("a ", 11) + ". c"), Checks.FULL);
         x.cut(0);
-        Checks.due("40 kinds", Checks.book(x, 1, numbered(40, 10)), 4);
-        Checks.due("41 kinds", Checks.book(x, 1, numbered(41, 10)), Checks.FULL);
+        Checks.due("40 kinds", Checks.book(x, 1, Checks.unlikeWords(40, 10)), 4);
+        Checks.due("41 kinds", Checks.book(x, 1, Checks.unlikeWords(41, 10)), Checks.FULL);
         Checks.due("the kinds stay", x.count(1, 2), 40);
         x.cut(0);
-        Checks.due("40 kinds again and again", Checks.book(x, 1, numbered(40, 10) + numbered(40, 10)), 8);
+        Checks.due("40 kinds again and again", Checks.book(x, 1, Checks.unlikeWords(40, 10) + Checks.unlikeWords(40, 10)), 8);
         Checks.due("a fitting book behind a full one", Checks.book(x, 0, "d e"), 1);
         Checks.dueText("a fitting book behind a full one", Checks.shown(x, 0), "d e");
         Checks.due("all of 1600 bytes", Checks.book(x, 0, repeated(" ", 1598) + "x."), 1);

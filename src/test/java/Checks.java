@@ -1,3 +1,6 @@
+import java.util.List;
+import java.util.function.IntUnaryOperator;
+
 /** What the tests share: counting wrong answers, and typing texts onto the tape. */
 final class Checks {
     static final int NONE = -1, UNKNOWN = -100001, OUTSIDE = -100002, NOT = -100003, FULL = -100004;
@@ -7,14 +10,47 @@ final class Checks {
         Integer.MAX_VALUE};
 
     private static int wrong = 0;
+    private static String topic = "";
 
     private Checks() {
+    }
+
+    /** Names the sentence of the document that the answers from here on are held against. */
+    static void says(String where, String words) {
+        topic = where + " \"" + words + "\": ";
     }
 
     static void due(String call, long got, long want) {
         if (got != want) {
             wrong++;
-            System.out.println(call + " answered " + got + ", due is " + want);
+            System.out.println(topic + call + " answered " + got + ", due is " + want);
+        }
+    }
+
+    static boolean isRefusal(int answer) {
+        return answer <= UNKNOWN && answer >= FULL;
+    }
+
+    /** The least and the greatest number are taken; those just beyond them, and those far beyond, are refused. */
+    static void bounds(String call, IntUnaryOperator it, int least, int greatest, int refusal) {
+        for (int n : new int[] {least, greatest}) {
+            int answer = it.applyAsInt(n);
+            due(call + " of " + n + ": " + answer + " is a refusal", isRefusal(answer) ? 1 : 0, 0);
+        }
+        for (int n : new int[] {least - 1, greatest + 1, Integer.MIN_VALUE, Integer.MAX_VALUE}) {
+            due(call + " of " + n, it.applyAsInt(n), refusal);
+        }
+    }
+
+    /** Two lists of what was asked and answered; only the first answer that differs is told. */
+    static void dueSame(String call, List<String> got, List<String> want) {
+        for (int n = 0; n < Math.max(got.size(), want.size()); n++) {
+            String mine = n < got.size() ? got.get(n) : "nothing";
+            String other = n < want.size() ? want.get(n) : "nothing";
+            if (!mine.equals(other)) {
+                dueText(call, mine, other);
+                return;
+            }
         }
     }
 
@@ -61,6 +97,32 @@ final class Checks {
         return x;
     }
 
+    /** The pair that is told lies in two paragraphs that no joint may join. */
+    static SideBySide withoutWay() {
+        SideBySide x = books("a\nb", "u\nv");
+        x.keep(true);
+        x.fast(0, 1);
+        return x;
+    }
+
+    /** A text of n unlike words, so many to a sentence. */
+    static String unlikeWords(int n, int aSentence) {
+        StringBuilder text = new StringBuilder();
+        for (int k = 0; k < n; k++) {
+            text.append('k').append(k).append(k % aSentence == aSentence - 1 ? "." : " ");
+        }
+        return text.toString();
+    }
+
+    /** All that a book has room for: 1600 bytes, 20 paragraphs of a sentence of 10 words, 40 kinds of 7 letters. */
+    static String greatestBook(char mark) {
+        StringBuilder text = new StringBuilder();
+        for (int w = 0; w < 200; w++) {
+            text.append(mark).append(10 + w % 40).append("word").append(w % 10 == 9 ? '\n' : ' ');
+        }
+        return text.toString();
+    }
+
     /** KINDs of the joints of the best way, as digits; "-" if there is no way. */
     static String kinds(SideBySide x) {
         int n = x.lay();
@@ -77,7 +139,7 @@ final class Checks {
     static void dueText(String call, String got, String want) {
         if (!got.equals(want)) {
             wrong++;
-            System.out.println(call + " answered " + got + ", due is " + want);
+            System.out.println(topic + call + " answered " + got + ", due is " + want);
         }
     }
 

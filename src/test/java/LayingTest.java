@@ -64,9 +64,7 @@ public final class LayingTest {
         SideBySide far = Checks.books("a.b.c", "u.v.w");
         far.fast(0, 2);
         Checks.dueText("far pair: u alone, a b with v w, c alone", Checks.kinds(far), "251");
-        SideBySide none = Checks.books("a\nb", "u\nv");
-        none.keep(true);
-        none.fast(0, 1);
+        SideBySide none = Checks.withoutWay();
         Checks.dueText("no way", Checks.kinds(none), "-");
         Checks.due("no way: lay()", none.lay(), Checks.NONE);
         Checks.due("no way: rest", none.rest(0, 0), Checks.NOT);
