@@ -231,8 +231,8 @@ public final class LayingEdgeTest {
 
     private static void keptAsFarAsBothHave() {
         Checks.says("Section 2", "When PARAGRAPHS are KEPT, then for each k, as far as both BOOKS have a PARAGRAPH k");
-        String[][] books = {{"a\nb", "u.v", "41"}, {"a.b", "u\nv", "32"}, {"a\nb\nc", "u\nv", "001"}, {"a\nb", "u\nv\nw", "002"},
-            {"a\nb", "", "11"}, {"", "u\nv", "22"}, {"", "", ""}, {"a.b", "u.v", "00"}};
+        String[][] books = {{"a\nb", "u.v", "41"}, {"a.b", "u\nv", "32"}, {"a\nb\nc", "u\nv", "001"},
+            {"a\nb", "u\nv\nw", "002"}, {"a\nb", "", "11"}, {"", "u\nv", "22"}, {"", "", ""}, {"a.b", "u.v", "00"}};
         for (String[] b : books) {
             SideBySide x = Checks.books(b[0], b[1]);
             x.keep(true);
@@ -434,7 +434,8 @@ public final class LayingEdgeTest {
         Checks.says("Promise 15", "1 its first LEFT SENTENCE, 2 its first RIGHT one (the next one, where it has none on that "
             + "side)");
         SideBySide x = mostJoints();
-        int[][] joints = {{0, 2, 0, 0, 450}, {17, 2, 0, 17, 450}, {18, 4, 0, 18, 230}, {19, 1, 1, 20, 450}, {37, 1, 19, 20, 450}};
+        int[][] joints = {{0, 2, 0, 0, 450}, {17, 2, 0, 17, 450}, {18, 4, 0, 18, 230}, {19, 1, 1, 20, 450},
+            {37, 1, 19, 20, 450}};
         for (int[] want : joints) {
             for (int what = 0; what < 4; what++) {
                 Checks.due("joint(" + want[0] + ", " + what + ")", x.joint(want[0], what), want[what + 1]);
