@@ -1,5 +1,10 @@
+import java.util.Arrays;
+
 /** Promises 11 to 19. */
 public final class LayingTest {
+    private static final int[] LEFTS = {1, 1, 0, 2, 1, 2, 2};
+    private static final int[] RIGHTS = {1, 0, 1, 1, 2, 2, 2};
+
     public static void main(String[] args) {
         fast();
         fastPairsBind();
@@ -199,20 +204,18 @@ public final class LayingTest {
         SideBySide x = Checks.books("a.b", "u.v.w");
         Checks.due("price(-1, 0, 0)", x.price(-1, 0, 0), Checks.OUTSIDE);
         Checks.due("price(7, 9, 9)", x.price(7, 9, 9), Checks.OUTSIDE);
-        int[] lefts = {1, 1, 0, 2, 1, 2, 2};
-        int[] rights = {1, 0, 1, 1, 2, 2, 2};
         for (int kind = 0; kind < 7; kind++) {
-            int i = 2 - lefts[kind];
-            int j = 3 - rights[kind];
+            int i = 2 - LEFTS[kind];
+            int j = 3 - RIGHTS[kind];
             Checks.due("price of " + kind + " at the end is known", x.price(kind, i, j) == Checks.UNKNOWN ? 1 : 0, 0);
             int[] beyondLeft = {i + 1, -1, 2, 3, Integer.MAX_VALUE, Integer.MAX_VALUE - 1, Integer.MIN_VALUE};
             for (int wrong : beyondLeft) {
-                int want = lefts[kind] == 0 ? 450 : Checks.UNKNOWN;
+                int want = LEFTS[kind] == 0 ? 450 : Checks.UNKNOWN;
                 Checks.due("price(" + kind + ", " + wrong + ", 0)", x.price(kind, wrong, 0), want);
             }
             int[] beyondRight = {j + 1, -1, 3, 4, Integer.MAX_VALUE, Integer.MAX_VALUE - 1, Integer.MIN_VALUE};
             for (int wrong : beyondRight) {
-                int want = rights[kind] == 0 ? 450 : Checks.UNKNOWN;
+                int want = RIGHTS[kind] == 0 ? 450 : Checks.UNKNOWN;
                 Checks.due("price(" + kind + ", 0, " + wrong + ")", x.price(kind, 0, wrong), want);
             }
         }
@@ -293,14 +296,27 @@ public final class LayingTest {
 
     /** The two least sums of the largest books, added up from the front by the prices that price() tells. */
     private static void wholeSize() {
-        String left = text(20, 7);
-        String right = text(20, 3);
-        SideBySide x = Checks.books(left, right);
+        SideBySide x = wholeBooks(0);
         Checks.due("whole size: left", x.count(0, 0), 20);
         Checks.due("whole size: right", x.count(1, 0), 20);
-        compareSums(x, "even shares");
-        x.rounds(10);
-        compareSums(x, "behind ten rounds");
+        compareSums(0, "even shares");
+        compareSums(10, "behind ten rounds");
+    }
+
+    private static SideBySide wholeBooks(int rounds) {
+        SideBySide x = Checks.books(text(20, 7), text(20, 3));
+        x.rounds(rounds);
+        return x;
+    }
+
+    /** An object answers 512 calls: a new one tells the prices of each kind from each left sentence on. */
+    private static int[] pricesFrom(int kind, int i, int rounds) {
+        SideBySide x = wholeBooks(rounds);
+        int[] prices = new int[21];
+        for (int j = 0; j + RIGHTS[kind] <= 20; j++) {
+            prices[j] = x.price(kind, i, j);
+        }
+        return prices;
     }
 
     private static String text(int sentences, int step) {
@@ -316,39 +332,42 @@ public final class LayingTest {
         return text.toString();
     }
 
-    private static void compareSums(SideBySide x, String when) {
-        int[] lefts = {1, 1, 0, 2, 1, 2, 2};
-        int[] rights = {1, 0, 1, 1, 2, 2, 2};
+    private static void compareSums(int rounds, String when) {
         long[][] least = new long[21][21];
         long[][] next = new long[21][21];
-        long far = 1L << 40;
         for (int i = 0; i <= 20; i++) {
-            for (int j = 0; j <= 20; j++) {
-                least[i][j] = i + j == 0 ? 0 : far;
-                next[i][j] = far;
-                for (int kind = 0; kind < 7; kind++) {
-                    int u = i - lefts[kind];
-                    int v = j - rights[kind];
-                    if (u >= 0 && v >= 0) {
-                        int price = x.price(kind, u, v);
-                        for (long sum : new long[] {least[u][v] + price, next[u][v] + price}) {
-                            if (sum < least[i][j]) {
-                                next[i][j] = least[i][j];
-                                least[i][j] = sum;
-                            } else {
-                                next[i][j] = Math.min(next[i][j], sum);
-                            }
-                        }
-                    }
+            Arrays.fill(least[i], 1L << 40);
+            Arrays.fill(next[i], 1L << 40);
+        }
+        least[0][0] = 0;
+        for (int i = 0; i <= 20; i++) {
+            // A sentence of the right alone leads on in the same row: that has to be whole ahead of the other kinds.
+            for (int kind : new int[] {2, 0, 1, 3, 4, 5, 6}) {
+                if (i + LEFTS[kind] <= 20) {
+                    leadOn(kind, i, pricesFrom(kind, i, rounds), least, next);
                 }
             }
         }
+        SideBySide x = wholeBooks(rounds);
         Checks.due("whole size, " + when + ": rest(0, 0)", x.rest(0, 0), least[20][20]);
         Checks.due("whole size, " + when + ": second()", x.second(), next[20][20]);
         int sum = 0;
-        for (int k = 0; k < x.lay(); k++) {
+        int joints = x.lay();
+        for (int k = 0; k < joints; k++) {
             sum += x.joint(k, 3);
         }
         Checks.due("whole size, " + when + ": sum of the best", sum, least[20][20]);
+    }
+
+    /** What a joint of that kind from left sentence i on makes of the two least sums behind it. */
+    private static void leadOn(int kind, int i, int[] prices, long[][] least, long[][] next) {
+        int u = i + LEFTS[kind];
+        for (int j = 0; j + RIGHTS[kind] <= 20; j++) {
+            int v = j + RIGHTS[kind];
+            for (long sum : new long[] {least[i][j] + prices[j], next[i][j] + prices[j]}) {
+                next[u][v] = Math.min(next[u][v], Math.max(sum, least[u][v]));
+                least[u][v] = Math.min(least[u][v], sum);
+            }
+        }
     }
 }

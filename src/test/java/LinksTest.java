@@ -155,7 +155,6 @@ public final class LinksTest {
     private static void throughSentences() {
         SideBySide x = Checks.books("a b. c", "u v w");
         x.fast(0, 0);
-        x.fast(0, 0);
         Checks.dueText("two and one", Checks.kinds(x), "3");
         x.term(2, 0);
         Checks.due("the word of the second sentence", x.link(0, 0, 2), 0);

@@ -1,25 +1,36 @@
 import java.lang.reflect.InvocationTargetException;
 import java.lang.reflect.Method;
-import java.util.Comparator;
+import java.lang.reflect.Modifier;
 import java.util.Arrays;
+import java.util.Comparator;
 
 /** No call throws, whatever its arguments and whatever the state; what is refused changes nothing. */
 public final class WildCallsTest {
-    private static final int[] NUMBERS = {0, 1, 2, 3, 5, 6, 7, 9, 10, 19, 20, 29, 30, 39, 40, -1, -2, 1600, 10000, Integer.MIN_VALUE,
-        Integer.MAX_VALUE, Integer.MAX_VALUE - 1};
+    private static final int OBJECTS = 1500;
+    private static final int[] NUMBERS = {0, 1, 2, 3, 5, 6, 7, 9, 10, 19, 20, 29, 30, 39, 40, -1, -2, 1600, 10000,
+        Integer.MIN_VALUE, Integer.MAX_VALUE, Integer.MAX_VALUE - 1};
+    /** How many calls seen() makes; and how many are made of one object: 512 at most with those that make its books. */
+    private static final int SEEN = 38;
+    private static final int MOST_CALLS = 300;
 
     private static long state = 1;
 
+    private final SideBySide x;
+    /** How far from the bounds the numbers are drawn: 0 as far as can be. */
+    private final int tameness;
+    private int calls;
+
+    private WildCallsTest(SideBySide x, int tameness) {
+        this.x = x;
+        this.tameness = tameness;
+    }
+
     public static void main(String[] args) throws IllegalAccessException {
-        Method[] calls = SideBySide.class.getDeclaredMethods();
-        calls = Arrays.stream(calls).filter(m -> java.lang.reflect.Modifier.isPublic(m.getModifiers()))
+        Method[] face = Arrays.stream(SideBySide.class.getDeclaredMethods()).filter(m -> Modifier.isPublic(m.getModifiers()))
             .sorted(Comparator.comparing(Method::getName)).toArray(Method[]::new);
-        Checks.due("calls of the face", calls.length, 36);
-        for (int n = 0; n < 150; n++) {
-            SideBySide x = start(n);
-            for (int c = 0; c < 450; c++) {
-                play(x, calls[draw(calls.length)], n % 3);
-            }
+        Checks.due("calls of the face", face.length, 36);
+        for (int n = 0; n < OBJECTS; n++) {
+            new WildCallsTest(start(n), n % 3).playAll(face);
         }
         Checks.end();
     }
@@ -52,30 +63,44 @@ public final class WildCallsTest {
         return text.toString();
     }
 
-    private static void play(SideBySide x, Method call, int tameness) throws IllegalAccessException {
+    private void playAll(Method[] face) throws IllegalAccessException {
+        while (calls < MOST_CALLS) {
+            Method call = face[draw(face.length)];
+            // A tape that is taken in the midst of a run would leave small books only.
+            if (!call.getName().equals("take") || draw(20) == 0) {
+                play(call, calls > MOST_CALLS / 2);
+            }
+        }
+    }
+
+    private void play(Method call, boolean compared) throws IllegalAccessException {
+        Object[] numbers = drawNumbers(call);
+        String shown = call.getName() + Arrays.toString(numbers);
+        String before = compared ? seen() : "";
+        calls++;
+        try {
+            int answer = (int) call.invoke(x, numbers);
+            if (compared && Checks.isRefusal(answer)) {
+                Checks.dueText("state behind the refusal of " + shown, seen(), before);
+            }
+        } catch (InvocationTargetException e) {
+            Checks.dueText(shown, "threw " + e.getCause(), "an answer");
+        }
+    }
+
+    private Object[] drawNumbers(Method call) {
         Object[] numbers = new Object[call.getParameterCount()];
         for (int i = 0; i < numbers.length; i++) {
             int number = tameness > 0 ? NUMBERS[draw(tameness == 1 ? 15 : 6)] : NUMBERS[draw(NUMBERS.length)];
             boolean isNumber = call.getParameterTypes()[i] == int.class;
             numbers[i] = isNumber ? (Object) number : (Object) (draw(2) == 0);
         }
-        // A tape that is taken in the midst of a run would leave small books only.
-        if (call.getName().equals("take") && draw(20) != 0) {
-            return;
-        }
-        String before = call.getName().equals("code") ? "" : seen(x);
-        try {
-            int answer = (int) call.invoke(x, numbers);
-            if (answer <= Checks.UNKNOWN && answer >= Checks.FULL && !before.isEmpty()) {
-                Checks.dueText("state behind the refusal of " + call.getName() + Arrays.toString(numbers), seen(x), before);
-            }
-        } catch (InvocationTargetException e) {
-            Checks.dueText(call.getName() + Arrays.toString(numbers), "threw " + e.getCause(), "an answer");
-        }
+        return numbers;
     }
 
     /** What can be asked without changing anything. */
-    private static String seen(SideBySide x) {
+    private String seen() {
+        calls += SEEN;
         StringBuilder all = new StringBuilder();
         all.append(x.code()).append(' ').append(x.lay()).append(' ').append(x.second()).append(' ');
         all.append(x.broken()).append(' ').append(x.rest(0, 0)).append(' ');
